@@ -219,7 +219,7 @@ public final class HungStreams {
         if (text.length >= MOST_TYPED) {
             return refuse(FULL);
         }
-        text.put(c);
+        text.append(c);
         return text.length;
     }
 
@@ -872,7 +872,7 @@ public final class HungStreams {
             standsIn = new int[STREAMS + 1];
         }
 
-        void put(int c) {
+        void append(int c) {
             if (length < MOST_TYPED) {
                 bytes[length] = c;
                 length++;

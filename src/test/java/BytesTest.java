@@ -19,6 +19,8 @@ public final class BytesTest {
         urgencyScheme();
         waits();
         nextChangesNothing();
+        firstAndLast();
+        deepestLine();
         shares();
         shareOfTheDeepest();
         allEach();
@@ -298,6 +300,50 @@ public final class BytesTest {
         due("14 digest", x.digest(), before);
         x.settings(0, 0);
         due("14 no pool", x.next(), HungStreams.NONE);
+    }
+
+    // The streams at both ends of the numbers take part in all that goes over all of them.
+    private static void firstAndLast() {
+        HungStreams x = Check.built("5:1 1:1 12:1");
+        x.readies(5, 900);
+        x.sends(3);
+        x.readies(1, 100);
+        x.readies(12, 100);
+        due("13 fresh first", x.sends(1), 1);
+        due("13 fresh last was raised", x.turn(12, 0), 200 * UNIT);
+        due("13 fresh first was raised and paid", x.turn(1, 0), 300 * UNIT);
+        due("13 the last waits", x.of(12, 9), 1);
+        x.back();
+        x.settings(3, 1);
+        x.sets(12, 1, 0);
+        due("14 the last by urgency", x.next(), 12);
+        x.sends(1);
+        due("13 the first waits", x.of(1, 9), 1);
+        x.sets(12, 1, 7);
+        x.readies(12, 100);
+        x.sends(3);
+        due("16 all(4) of the last", x.all(4), 3);
+        due("16 all(3)", x.all(3), 700);
+        x.window(12, 1);
+        due("6 a window of 1", x.of(12, 14), 1);
+        due("16 a window of 1", x.all(1) >> 12, 1);
+    }
+
+    private static void deepestLine() {
+        HungStreams x = Check.built("12:1(11:1(10:1(9:1(8:1(7:1(6:1(5:1(4:1(3:1(2:1(1:1)))))))))))");
+        x.readies(1, 250);
+        due("14 deepest", x.next(), 1);
+        due("16 all are live", x.all(2), 8190);
+        share(x, 1, 1, 1);
+        due("9 deepest", x.common(1, 12), 12);
+        due("9 deepest", x.common(12, 1), 12);
+        due("13 deepest", x.sends(9), 3);
+        due("7 the uppermost paid", x.turn(12, 0), 250 * UNIT);
+        due("7 floor of the root", x.turn(0, 1), 200 * UNIT);
+        due("3 the uppermost under the deepest", x.moves(12, 1, 16, 0), 1);
+        due("7 its turn", x.turn(12, 0), 0);
+        due("7 the deepest's turn", x.turn(1, 0), 200 * UNIT);
+        due("6 below", x.of(1, 13), 11);
     }
 
     private static void share(HungStreams x, int s, long above, long below) {

@@ -121,6 +121,8 @@ public final class TextTest {
         fault("1:1()", 4);
         fault("1:1( )", 5);
         fault("1:1(2:1))", 8);
+        fault("1:1(2:1())", 8);
+        fault("1:1(2:1 3:1()", 12);
         fault("1:1(2:1)(3:1)", 8);
         fault("1:1((2:1))", 4);
         fault("1:1(2:1(3:1)(", 12);
@@ -137,7 +139,7 @@ public final class TextTest {
     }
 
     private static void buildsAnew() {
-        HungStreams x = Check.built("1:2(2:3) 3:1");
+        HungStreams x = Check.built("1:2(2:3) 3:1(12:1)");
         x.readies(2, 900);
         x.sends(3);
         x.closes(3);
@@ -205,7 +207,7 @@ public final class TextTest {
     }
 
     private static HungStreams busy() {
-        HungStreams x = Check.built("1:3(2:4 3:5) 4:6");
+        HungStreams x = Check.built("1:3(2:4 3:5 12:2) 4:6");
         x.readies(2, 900);
         x.readies(3, 900);
         x.readies(4, 150);
@@ -341,7 +343,7 @@ public final class TextTest {
     }
 
     private static void digestByHand() {
-        HungStreams x = Check.built("2:3(11:4) 7:1");
+        HungStreams x = Check.built("2:3(11:4) 7:1(12:1 1:5)");
         x.readies(11, 500);
         x.readies(7, 500);
         x.sends(3);
@@ -355,7 +357,7 @@ public final class TextTest {
         for (int what = 0; what <= 6; what++) {
             h = 31 * h + x.all(what);
         }
-        for (int s : new int[] {2, 7, 11}) {
+        for (int s : new int[] {1, 2, 7, 11, 12}) {
             h = 31 * h + s;
             for (int what = 0; what <= 15; what++) {
                 h = 31 * h + x.of(s, what);

@@ -76,15 +76,22 @@ public final class TreeTest {
 
     // One that was there, sent, and has gone begins again with nothing of what it had.
     private static void comesAgainAnew() {
-        HungStreams x = Check.built("1:1(2:1) 3:1");
-        x.settings(2, 0);
-        x.readies(1, 50);
+        HungStreams x = Check.built("1:1(2:1) 3:1 4:1");
+        x.settings(2, 3);
+        x.readies(1, 150);
         x.readies(2, 900);
+        x.readies(4, 900);
         x.sets(1, 1, 7);
         x.sets(1, 2, 1);
-        x.sends(4);
+        x.sends(7);
         due("2 floor of 1 was raised", x.turn(1, 1) > 0 ? 1 : 0, 1);
+        x.readies(1, 150);
+        x.moves(4, 0, 16, 0);
+        x.sends(3);
+        due("2 it waits", x.of(1, 9), 3);
         x.closes(1);
+        x.sends(3);
+        due("2 it is gone", x.of(1, 9), HungStreams.BAD);
         due("2 comes(1, 3, 9, 0)", x.comes(1, 3, 9, 0), 0);
         int[] fresh = {3, 9, 0, 1000, 3, 0, 1, 0, 0, 0, 0, -1, 0, 0, 0, 0};
         for (int what = 0; what < fresh.length; what++) {
@@ -206,6 +213,23 @@ public final class TreeTest {
         w.sends(1);
         due("5 gone at 50", w.of(1, 7), HungStreams.BAD);
         due("5 no frame, no age", Check.built("1:1").closes(1), 1);
+        HungStreams v = Check.built("5:6(1:1 12:2) 7:1");
+        v.readies(7, 900);
+        v.closes(5);
+        v.closes(12);
+        v.sends(9);
+        due("5 age of 12", v.of(12, 7), 9);
+        v.settings(2, 50);
+        v.sends(0);
+        v.back();
+        due("5 age of 12 taken back", v.of(12, 7), 9);
+        v.moves(12, 5, 3, 0);
+        v.settings(2, 9);
+        tree("5 12 goes too, but 5 ahead of it", v, "1:1 7:1");
+        HungStreams u = Check.built("5:6(1:1 12:2) 7:1");
+        u.settings(2, 0);
+        u.closes(5);
+        tree("5 the first and the last get their weights", u, "1:2 7:1 12:4");
     }
 
     private static void ofEach() {
@@ -224,6 +248,8 @@ public final class TreeTest {
         for (int what = 0; what < two.length; what++) {
             due("6 of(2, " + what + ")", x.of(2, what), two[what]);
         }
+        due("6 below: the first and the last", Check.built("5:1(1:1(12:1))").of(5, 13), 2);
+        due("6 below: all", Check.built("12:1(1:1 2:1 3:1 4:1 5:1(6:1 7:1 8:1 9:1 10:1 11:1))").of(12, 13), 11);
         due("6 of(1, 12)", x.of(1, 12), 1);
         due("6 of(1, 13)", x.of(1, 13), 3);
         due("6 of(4, 14)", x.of(4, 14), 0);
