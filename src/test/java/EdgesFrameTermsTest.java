@@ -16,6 +16,7 @@ public final class EdgesFrameTermsTest {
         leastTurn();
         floorBecomesTurn();
         firstThatCan();
+        deepest();
         leastUrgency();
         notStepwise();
         leastLast();
@@ -257,6 +258,20 @@ public final class EdgesFrameTermsTest {
         E.due("CLOSED", y.next(), 2);
     }
 
+    // Twelve hang on one another: each is on the way.
+    private static void deepest() {
+        E.says(0, "from THE ROOT on, again and again");
+        HungStreams x = Check.built("12:1(11:1(10:1(9:1(8:1(7:1(6:1(5:1(4:1(3:1(2:1(1:16)))))))))))");
+        x.readies(1, 200);
+        senders(x, 1, 1);
+        E.due("TURN of the last", x.turn(1, 0), 200 * UNIT / 16);
+        for (int s = 2; s <= 12; s++) {
+            E.due("TURN of " + s, x.turn(s, 0), 200 * UNIT);
+            E.due("FLOOR of " + s, x.turn(s, 1), s == 2 ? 100 * UNIT / 16 : 100 * UNIT);
+        }
+        E.due("FLOOR of THE ROOT", x.turn(0, 1), 100 * UNIT);
+    }
+
     private static void leastUrgency() {
         E.says(0, "By SCHEME 1: of those that CAN those of the least URGENCY");
         HungStreams x = three("1:1(2:1) 3:1");
@@ -272,6 +287,13 @@ public final class EdgesFrameTermsTest {
         x.window(2, 9);
         x.sets(2, 2, 1);
         E.due("though it is STEPWISE", x.next(), 2);
+        HungStreams y = Check.built("1:1 12:1");
+        y.settings(3, 1);
+        y.readies(1, 1);
+        y.readies(12, 1);
+        E.due("the first STREAM", y.next(), 1);
+        y.sets(1, 1, 4);
+        E.due("the last STREAM", y.next(), 12);
     }
 
     private static void notStepwise() {
@@ -285,6 +307,9 @@ public final class EdgesFrameTermsTest {
         senders(x, 3, 3);
         x.sets(2, 2, 0);
         senders(x, 2);
+        x.sets(1, 2, 0);
+        x.sets(2, 2, 1);
+        senders(x, 1, 1);
     }
 
     private static void leastLast() {

@@ -135,6 +135,10 @@ public final class EdgesTextTermsTest {
     private static void firstByte() {
         E.says(0, "FAULT: the place of the first byte that can not stand there");
         fault("x", 0);
+        fault("(", 0);
+        fault(")", 0);
+        fault("(1:1)", 0);
+        fault(" )", 1);
         fault("1x", 1);
         fault("1:x", 2);
         fault("1:1x", 3);

@@ -14,6 +14,7 @@ public final class EdgesTextsTest {
         typeFull();
         clear();
         buildsAllGone();
+        buildsTheSameAnew();
         buildsFloors();
         buildsFromTheLeft();
         buildsTextStays();
@@ -107,14 +108,30 @@ public final class EdgesTextsTest {
         Check.typeAnew(x, "");
         x.builds();
         E.due("none comes", x.all(0), 0);
-        Check.typeAnew(x, "3:5");
-        x.comes(3, 0, 1, 0);
-        x.readies(3, 50);
-        x.closes(3);
+    }
+
+    // 1 has sent and is CLOSED, 2 has sent and is READY, 3 waits.
+    private static void buildsTheSameAnew() {
+        E.says(19, "All STREAMS are there no more, FLOORS are 0; those of THE TEXT (which stays) come");
+        HungStreams x = Check.built("1:5 2:5 3:5");
+        x.settings(3, 1);
+        for (int s = 1; s <= 3; s++) {
+            x.sets(s, 1, s == 3 ? 7 : 1);
+            x.sets(s, 2, 1);
+            x.readies(s, 900);
+        }
+        x.sends(5);
+        x.closes(1);
+        x.sends(2);
+        E.due("AGE of 1", x.of(1, 7), 2);
+        E.due("READY of 2", x.of(2, 2), 500);
+        E.due("WAIT of 3", x.of(3, 9), 7);
         x.builds();
         int[] due = {0, 5, 0, 1000, 3, 0, 1, 0, 0, 0, 0, NONE, 0, 0, 0, 0};
-        for (int what = 0; what < due.length; what++) {
-            E.due("the same comes anew: of(3, " + what + ")", x.of(3, what), due[what]);
+        for (int s = 1; s <= 3; s++) {
+            for (int what = 0; what < due.length; what++) {
+                E.due("of(" + s + ", " + what + ")", x.of(s, what), due[what]);
+            }
         }
     }
 

@@ -261,6 +261,7 @@ public final class EdgesTreeTermsTest {
         for (int s = 1; s <= 12; s++) {
             E.due("of(" + s + ", 13)", x.of(s, 13), s - 1);
         }
+        E.due("the first and the last", Check.built("5:1(1:1 12:1)").of(5, 13), 2);
         E.due("not what is beside", Check.built("1:1(2:1) 3:1(4:1)").of(1, 13), 1);
     }
 
@@ -473,6 +474,10 @@ public final class EdgesTreeTermsTest {
         left("just 2: 4 by 2", "1:4(2:1 3:1)", "2:2 3:2");
         left("the only one has all", "1:16(2:1)", "2:16");
         left("the only one has all, though it had more", "1:1(2:16)", "2:1");
+        HungStreams x = Check.built("5:6(1:1 12:2)");
+        x.settings(2, 0);
+        x.closes(5);
+        E.shows("the first and the last", x, "1:2 12:4");
         left("what is deeper stays", "1:2(2:16(3:9))", "2:2(3:9)");
         left("what is beside stays", "1:2(2:16) 4:9", "2:2 4:9");
         left("eleven", "1:16(2:1 3:1 4:1 5:1 6:1 7:1 8:1 9:1 10:1 11:1 12:16)",
