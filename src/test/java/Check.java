@@ -1,9 +1,11 @@
+import java.nio.file.Path;
+
 /** What the tests share: it counts answers that are not as due, and speaks of texts in whole. */
 final class Check {
     private int asked = 0;
     private int wrong = 0;
 
-    void due(String call, long got, long want) {
+    synchronized void due(String call, long got, long want) {
         asked++;
         if (got != want) {
             wrong++;
@@ -11,7 +13,7 @@ final class Check {
         }
     }
 
-    void due(String call, String got, String want) {
+    synchronized void due(String call, String got, String want) {
         asked++;
         if (!got.equals(want)) {
             wrong++;
@@ -24,6 +26,12 @@ final class Check {
         if (wrong != 0 || asked == 0) {
             System.exit(1);
         }
+    }
+
+    /** The project's folder; .ci/run tells where the class stands, without that it is looked for from here. */
+    static Path root(String[] args) {
+        Path source = Path.of(args.length > 0 ? args[0] : "src/main/java/HungStreams.java").toAbsolutePath();
+        return source.getParent().getParent().getParent().getParent();
     }
 
     static void typeAnew(HungStreams x, String text) {

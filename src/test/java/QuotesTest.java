@@ -24,8 +24,7 @@ public final class QuotesTest {
     private final StringBuilder[] unsaid = new StringBuilder[1 + PROMISES];
 
     public static void main(String[] args) throws IOException {
-        Path source = Path.of(args.length > 0 ? args[0] : "src/main/java/HungStreams.java").toAbsolutePath();
-        Path root = source.getParent().getParent().getParent().getParent();
+        Path root = Check.root(args);
         QuotesTest test = new QuotesTest(Files.readString(root.resolve("../shared/DOC.md")));
         for (String words : LEADING_UP) {
             test.say(0, words);
